@@ -20,12 +20,11 @@ public final class CommitSites {
     // Far above what can happen up to the last time.
     private static final int MOST_EVENTS = 1000000;
 
-    // Above what 512 calls can bring on their way at once: a call sends to seven sites at most,
-    // and before time goes on only every second call can send.
+    // Above what 512 calls can bring on their way at once: 256 sites that come up ask seven others
+    // each, and timers and answers within the longest delay add some hundreds.
     private static final int MOST_ON_WAY = 4096;
 
-    // A power of two above the longest delay: what is on its way comes at different slots
-    // if it comes at different times.
+    // More than the longest delay, so that messages that share a slot come at the same time.
     private static final int SLOTS = 32;
 
     private static final int INITIAL = 0;
@@ -62,7 +61,7 @@ public final class CommitSites {
 
     private final Site[] sites = new Site[MOST_SITES];
     private final Network network = new Network();
-    // Kind, site, from which, attempt and state told, as the last promise but one numbers them.
+    // Kind, site, from which, attempt and state told, in the order in which they are asked for.
     private final int[] latestEvent = new int[LATEST_FIELDS];
     private int siteCount;
     private int allWeight;
@@ -358,7 +357,7 @@ public final class CommitSites {
         } else {
             network.lost++;
         }
-        // Only now: what is sent meanwhile must not be written over the message that is read.
+        // Not earlier: what is sent meanwhile must not be written over the message that is read.
         network.keepSpare(message);
         return comes ? WAS_HANDLED : WAS_LOST;
     }

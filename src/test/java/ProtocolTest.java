@@ -108,8 +108,8 @@ public final class ProtocolTest {
         runs.on("one that is COMMITTED tells it to a leader to commit",
             "site 1; site 1; site 1; site 1; begin 0 15; run 3; part 1 1; run 1 = 3; all 0 = 4 2 2 2",
             "all 5 = -1 14 15 16; run 16; part 15 1; link 2 1 20; link 3 1 20; run 4; of 1 2 = 2; count 0 = 24",
-            "run 1 = 3; run 1 = 1; latest 0 = 9; latest 1 = 1; latest 2 = 0; of 1 0 = 4; of 1 6 = 26; of 1 2 = 0",
-            "count 9 = 2; all 0 = 4 4 2 2");
+            "run 1 = 3; run 1 = 1; latest 0 = 9; latest 1 = 1; latest 2 = 0; latest 3 = 0; latest 4 = 0; of 1 0 = 4; of 1 6 = 26",
+            "of 1 2 = 0; count 9 = 2; all 0 = 4 4 2 2");
         runs.on("one that is ABORTED tells it to a leader to abort",
             "site 1; site 1; site 1; site 1; link 3 0 0; begin 0 15; run 9; part 1 1; run 1; all 0 = 5 1 1 1",
             "all 5 = -1 12 13 14; run 10; part 15 1; link 2 1 20; link 3 1 20; run 2; of 1 2 = 4; run 2",
@@ -135,6 +135,10 @@ public final class ProtocolTest {
             "of 0 5 = 51; link 1 0 3; link 2 1 1; run 1 = 1; run 3 = 3; all 5 = 56 53 56; link 1 0 1; run 7 = 1",
             "of 1 3 = 3; run 1 = 2; all 0 = 3 2 2; all 2 = 0 2 0; all 5 = 64 63 66; count 9 = 1; run 1 = 1",
             "all 0 = 3 4 2; run 1 = 2; all 0 = 4 4 4; check = 1");
+        runs.on("WAITING and PREABORT together have the abort quorum",
+            "site 1; site 1; site 1; begin 0 7; run 1; crash 0; run 20; link 1 2 0; run 1 = 1; all 0 = 1 3 1",
+            "link 1 2 1; run 19; of 1 2 = 3; all 0 = 1 3 1; run 1 = 1; of 1 2 = 4; of 1 3 = 2; run 1 = 1",
+            "all 0 = 1 3 3; run 1 = 1; all 0 = 1 5 3; run 1 = 1; all 0 = 1 5 5");
         runs.on("its own state is there as it was when it attempted",
             "site 1; site 1; site 1; begin 2 7; run 1; link 2 0 15; link 2 1 0; run 10 = 3; of 0 2 = 3; run 6",
             "count 0 = 17; latest 0 = 6; latest 1 = 0; of 0 0 = 2; of 0 2 = 3; of 0 5 = 21; run 3; run 1",

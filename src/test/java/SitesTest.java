@@ -87,7 +87,8 @@ public final class SitesTest {
             "site 1; site 1; link 0 1 9; begin 0 3; run 3; count 9 = 1; reset = 1; count 9 = 0; run 50 = 0",
             "all 0 = 0 0; count 0 = 50; link 0 1 1; begin 0 3 = 1; run 5 = 5; all 0 = 4 4; all 6 = 54 55");
         runs.on("12 attempts begin with 1 again",
-            "site 1; site 1; begin 0 3; run 2; of 0 3 = 1; crash 0; recover 0; of 0 3 = 2; reset = 1",
+            "site 1; site 1; begin 0 3; run 2; of 0 3 = 1; of 0 2 = 2; reset = 1; of 0 2 = 0; of 0 3 = 0",
+            "begin 0 3; run 2; of 0 3 = 1; crash 0; recover 0; of 0 3 = 2; reset = 1",
             "of 0 3 = 0; begin 0 3; run 2; of 0 3 = 1");
         runs.on("12 twice, and on a new object", "reset = 1; reset = 1; site 1 = 0; reset = 1; count 5 = 1");
     }
