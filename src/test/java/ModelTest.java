@@ -3,8 +3,11 @@ import java.util.Random;
 
 /** Long runs of calls, made up from fixed seeds, on the program and on the plain model at once. */
 public final class ModelTest {
-    private static final int RUNS = 4000;
+    private static final int RUNS = 20000;
+    // An object is promised for so many calls; the last of them ask for all that there is to see.
     private static final int CALLS = 512;
+    private static final int MOST_ASKED_AT_LAST = 1 + 10 * 7 + 10 * 10 + 3 * 12;
+    private static final int MOST_AT_ONCE = 3;
     private static final int[][][] met = new int[12][6][5];
 
     private final Random random;
@@ -14,13 +17,16 @@ public final class ModelTest {
     private final int most;
     private final boolean rough;
     private final boolean cutting;
+    private final boolean crowding;
     private int sites;
+    private int calls;
 
     private ModelTest(long seed) {
         random = new Random(seed);
         most = 1 + random.nextInt(8);
         rough = random.nextInt(3) == 0;
         cutting = random.nextInt(3) == 0;
+        crowding = random.nextInt(20) == 0;
     }
 
     public static void main(String[] args) {
@@ -36,12 +42,16 @@ public final class ModelTest {
     }
 
     private int differsAt() {
-        for (int k = 0; k < CALLS; k++) {
-            boolean same = rough && random.nextInt(6) == 0 ? wrongInput() : usual();
-            if (!same || k % 8 == 0 && !sameInAll()) {
-                System.out.println(told);
-                return k;
-            }
+        // Now and then a run ends early, so that all is asked for in every kind of midst.
+        int end = random.nextInt(2) == 0 ? CALLS : MOST_ASKED_AT_LAST + MOST_AT_ONCE + random.nextInt(300);
+        boolean same = true;
+        while (same && calls <= end - MOST_ASKED_AT_LAST - MOST_AT_ONCE) {
+            same = rough && random.nextInt(6) == 0 ? wrongInput() : usual();
+        }
+        same = same && sameInAll();
+        if (!same || calls > CALLS) {
+            System.out.println(told);
+            return calls;
         }
         for (int a = 0; a < 12; a++) {
             for (int b = 0; b < 6; b++) {
@@ -54,6 +64,7 @@ public final class ModelTest {
     }
 
     private boolean same(String method, Integer... args) {
+        calls++;
         int got = Runs.answer(program, method, List.of(args));
         int want = model.answer(method, List.of(args));
         boolean asks = List.of("of", "count", "latest", "weight", "delay", "check").contains(method);
@@ -80,6 +91,14 @@ public final class ModelTest {
         return same;
     }
 
+    private boolean allDecided() {
+        int open = 0;
+        for (int state = 0; state < 4; state++) {
+            open += model.answer("weight", List.of(state));
+        }
+        return open == 0;
+    }
+
     private int any() {
         return random.nextInt(Math.max(1, sites));
     }
@@ -89,14 +108,21 @@ public final class ModelTest {
             sites++;
             return same("site", 1 + random.nextInt(random.nextBoolean() ? 9 : 1));
         }
+        if (crowding && random.nextInt(6) != 0) {
+            int site = any();
+            return same("crash", site) & same("recover", site);
+        }
         if (cutting && random.nextInt(2) == 0) {
             int slow = random.nextInt(3) == 0 ? 20 - random.nextInt(8) : 1 + random.nextInt(4);
-            return same("link", any(), any(), random.nextInt(3) == 0 ? 0 : slow);
+            return same("link", any(), any(), random.nextInt(2) == 0 ? 0 : slow);
+        }
+        if (random.nextInt(4) == 0 && allDecided()) {
+            return same("reset") && same("part", 255, 1) && same("begin", any(), 255);
         }
         int weight = 1 + random.nextInt(9 * sites);
         int delay = random.nextInt(4) == 0 ? random.nextInt(21) : random.nextInt(4);
         int mostly = random.nextInt(4) == 0 ? random.nextInt(256) : 255;
-        return switch (random.nextInt(32)) {
+        return switch (random.nextInt(36)) {
             case 0 -> same("quorums", weight, 1 + random.nextInt(9 * sites));
             case 1 -> same("patience", 5 + random.nextInt(random.nextInt(3) == 0 ? 96 : 8));
             case 2, 3, 4 -> same("link", any(), any(), delay);
@@ -109,6 +135,9 @@ public final class ModelTest {
             case 18, 19 -> same("run", random.nextInt(40));
             case 20 -> random.nextInt(5) != 0 || same("run", random.nextInt(501));
             case 21 -> random.nextInt(6) != 0 || same("reset") && same("begin", any(), mostly);
+            case 22, 23, 24 -> same("of", any(), random.nextInt(7));
+            case 25 -> same("latest", random.nextInt(5));
+            case 26 -> same("count", random.nextInt(10));
             default -> same("step");
         };
     }
