@@ -351,7 +351,7 @@ public final class EdgesTest {
         for (int start = 0; start <= 70; start++) {
             runs.on("12 no message to come, whenever it was to come", TWO,
                 "patience 50; link 0 1 20; run " + start + "; begin 0 0; run 1; reset = 1; run " + start,
-                "run 1; begin 0 3; run 19 = 0; all 0 = 1 0; run 1 = 1; all 0 = 1 1");
+                "link 0 1 1; link 1 0 20; begin 0 3; run 1 = 1; run 19 = 0; count 2 = 1; run 1 = 1; of 0 2 = 2");
         }
         runs.on("12 no attempt", TWO,
             "begin 0 3; run 2; crash 0; recover 0; of 0 3 = 2; reset = 1; of 0 3 = 0; begin 0 3; run 2; of 0 3 = 1",

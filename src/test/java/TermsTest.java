@@ -171,7 +171,8 @@ public final class TermsTest {
     // Site 1 attempts at 12, 33, 54, .. and gives it up at 22, 43, 64, ..; what it sends is lost a tick later.
     private static void longTime(Runs runs) {
         String alone = TWO + "begin 0 3; run 1; crash 0; run 499 = 47; count 0 = 500;";
-        runs.on("attempts up to time 500", alone, "of 1 3 = 24; count 4 = 47; count 1 = 26; count 3 = 25; count 9 = 0");
+        runs.on("attempts up to time 500", alone,
+            "of 1 3 = 24; count 4 = 47; count 1 = 26; count 3 = 25; count 9 = 0");
         runs.on("attempts up to time 4000", alone,
             "run 500; run 500; run 500; run 500; run 500; run 500; run 500; count 0 = 4000; of 1 3 = 190",
             "count 4 = 380; count 1 = 192; count 3 = 191; of 1 2 = 0; of 1 5 = 4002; step = -1");
@@ -300,6 +301,7 @@ public final class TermsTest {
     private static void statesToCommit(Runs runs) {
         runs.on("WAITING and PRECOMMIT are the commit quorum", statesWithPrecommit("quorums 3 3"),
             "of 1 2 = 2; of 1 0 = 2; of 1 3 = 1; of 1 5 = 34; run 1; of 2 0 = 2; run 1; of 1 0 = 4");
+        runs.on("they are more than the commit quorum", statesWithPrecommit("quorums 2 3"), "of 1 2 = 2; of 1 0 = 2");
         runs.on("they are it, and WAITING alone is the abort quorum: to commit goes first",
             statesWithPrecommit("quorums 3 2"),
             "of 1 2 = 2");
