@@ -1,7 +1,7 @@
 import java.lang.reflect.Field;
 
 /**
- * Promise 18 says what check() would tell. No run of calls brings sites to where it tells 0, so their
+ * Promise 18 says what check() would tell. No run of calls was found in which it tells 0, so the sites'
  * states are put in by force; this test alone knows how the program holds them.
  */
 public final class CheckTest {
